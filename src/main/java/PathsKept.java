@@ -23,6 +23,7 @@ public final class PathsKept {
     private static final int MOST_DAYS = 400;
     private static final int LONGEST_LAPSE = 399;
     private static final int LAST_DAY = 9000;
+    private static final int LAST_WALK_DAY = 99;
     private static final int MOST_DAYS_SEEN = 60;
     private static final int MOST_DAYS_DRAWN = 99;
     private static final int TIMES_DRAWN = 10;
@@ -1197,7 +1198,7 @@ public final class PathsKept {
             beginRow(walks);
             walks.put(Told.WHO, readTold(told.walkers));
             walks.put(Told.WHICH, readTold(told.paths));
-            walks.put(Told.WHEN, readNumber(0, 99));
+            walks.put(Told.WHEN, readNumber(0, LAST_WALK_DAY));
             walks.endRow();
         }
 
@@ -1205,8 +1206,8 @@ public final class PathsKept {
             Table bulls = told.bulls;
             beginRow(bulls);
             bulls.put(Told.ON, readTold(told.paths));
-            bulls.put(Told.SINCE, readNumber(0, 99));
-            bulls.put(Told.UNTIL, readNumber(0, 99));
+            bulls.put(Told.SINCE, readNumber(0, LAST_WALK_DAY));
+            bulls.put(Told.UNTIL, readNumber(0, LAST_WALK_DAY));
             bulls.endRow();
         }
 
@@ -1460,7 +1461,7 @@ public final class PathsKept {
 
         private void goWalks(boolean snow) {
             Table walks = told.walks;
-            for (int i = 0; i < walks.size; i++) {
+            for (int i = 0; i < walks.size && standing.day <= LAST_WALK_DAY; i++) {
                 if (walks.cell(i, Told.WHEN) == standing.day) {
                     int walker = walks.cell(i, Told.WHO);
                     int path = walks.cell(i, Told.WHICH);
@@ -1578,7 +1579,7 @@ public final class PathsKept {
                 if (!counts[i]) {
                     continue;
                 }
-                if (kind[i] == STRIKE) {
+                if (kind[i] == STRIKE && whom[i] < i) {
                     counts[whom[i]] = false;
                 } else {
                     lastDay = Math.max(lastDay, day[i]);
