@@ -793,8 +793,8 @@ public final class PathsKept {
         private int size;
         /** Counted ahead of size: a sign is read before it is put behind what it joins. */
         private int knots;
-        /** What length, stile, age, legs, pace, gone, day stand for. */
-        private final long[] names = new long[7];
+        /** What names stand for, each as far behind the first one as its token is behind LENGTH. */
+        private final long[] names = new long[Tokens.DAY - Tokens.LENGTH + 1];
         private final long[] stack = new long[MOST_KNOTS];
 
         void empty() {
@@ -1490,13 +1490,13 @@ public final class PathsKept {
         /** What names in a law stand for from now on. */
         void lookAt(int path, int walker) {
             long[] names = told.laws.names;
-            names[0] = told.paths.cell(path, Told.LENGTH);
-            names[1] = told.paths.cell(path, Told.STILE);
-            names[2] = standing.age[path];
-            names[3] = walker == NOBODY ? 0 : legs[walker];
-            names[4] = walker == NOBODY ? 0 : standing.left[walker];
-            names[5] = standing.gone[path];
-            names[6] = standing.day;
+            names[Tokens.LENGTH - Tokens.LENGTH] = told.paths.cell(path, Told.LENGTH);
+            names[Tokens.STILE - Tokens.LENGTH] = told.paths.cell(path, Told.STILE);
+            names[Tokens.AGE - Tokens.LENGTH] = standing.age[path];
+            names[Tokens.LEGS - Tokens.LENGTH] = walker == NOBODY ? 0 : legs[walker];
+            names[Tokens.PACE - Tokens.LENGTH] = walker == NOBODY ? 0 : standing.left[walker];
+            names[Tokens.GONE - Tokens.LENGTH] = standing.gone[path];
+            names[Tokens.DAY - Tokens.LENGTH] = standing.day;
         }
 
         /** What it costs him of his pace; below 0, if he can't go it. */

@@ -1478,20 +1478,26 @@ public final class PathsKeptModel {
             due("fault(1) of " + text, x.fault(1), m.faultPlace);
         }
 
+        /** A number that may be there or not, now and then a wild one. */
+        int wrong(int most) {
+            int kind = r.nextInt(6);
+            return kind == 0 ? r.nextInt() : kind == 1 ? Integer.MIN_VALUE : kind == 2 ? Integer.MAX_VALUE : r.nextInt(most + 4) - 2;
+        }
+
         int path() {
-            return r.nextInt(8) == 0 ? r.nextInt(13) - 2 : r.nextInt(Math.max(1, m.w.paths.size()));
+            return r.nextInt(8) == 0 ? wrong(9) : r.nextInt(Math.max(1, m.w.paths.size()));
         }
 
         int walker() {
-            return r.nextInt(8) == 0 ? r.nextInt(8) - 2 : r.nextInt(Math.max(1, m.w.walkers.size()));
+            return r.nextInt(8) == 0 ? wrong(4) : r.nextInt(Math.max(1, m.w.walkers.size()));
         }
 
         int place() {
-            return r.nextInt(8) == 0 ? r.nextInt(11) - 2 : r.nextInt(Math.max(1, m.w.places.size()));
+            return r.nextInt(8) == 0 ? wrong(7) : r.nextInt(Math.max(1, m.w.places.size()));
         }
 
         int upTo(int most) {
-            return r.nextInt(12) == 0 ? r.nextInt(4) == 0 ? r.nextInt() : r.nextInt(most + 4) - 2 : r.nextInt(most + 1);
+            return r.nextInt(12) == 0 ? wrong(most) : r.nextInt(most + 1);
         }
 
         int daysUpTo(int most) {
