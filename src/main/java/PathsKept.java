@@ -1052,11 +1052,11 @@ public final class PathsKept {
         }
 
         private boolean takes(char sign) {
-            boolean is = isBetween(sign, sign);
-            if (is) {
-                next++;
+            if (next >= size || bytes[next] != sign) {
+                return false;
             }
-            return is;
+            next++;
+            return true;
         }
     }
 

@@ -12,7 +12,7 @@ import java.util.Random;
  * trees for laws, whole copies for states, searches that try everything.
  */
 public final class PathsKeptModel {
-    private static final int OBJECTS = 400;
+    private static final int OBJECTS = 700;
     private static final int CALLS = 512;
 
     private static int wrong;
@@ -1327,7 +1327,7 @@ public final class PathsKeptModel {
                 return "(not " + expression(depth - 1) + ")";
             }
             String both = expression(depth - 1) + " " + signs[r.nextInt(signs.length)] + " " + expression(depth - 1);
-            return r.nextInt(3) == 0 ? "(" + both + ")" : both;
+            return r.nextInt(4) != 0 ? "(" + both + ")" : both;
         }
 
         String gentle(String law) {
@@ -1347,41 +1347,54 @@ public final class PathsKeptModel {
                 lines.add("place " + fresh(places));
             }
             int nPaths = nPlaces < 2 ? 0 : r.nextInt(10);
-            int long1 = r.nextBoolean() ? 99 : 12;
+            int longest = r.nextBoolean() ? 99 : 12;
+            List<String[]> ends = new ArrayList<>();
             for (int i = 0; i < nPaths; i++) {
                 String a = of(places);
                 String b = of(places);
                 while (a.equals(b)) {
                     b = of(places);
                 }
-                lines.add("path " + fresh(paths) + " " + a + " " + b + " " + (1 + r.nextInt(long1)) + " " + r.nextInt(r.nextBoolean() ? 10 : 4)
+                ends.add(new String[] {a, b});
+                lines.add("path " + fresh(paths) + " " + a + " " + b + " " + (1 + r.nextInt(longest)) + " " + r.nextInt(r.nextBoolean() ? 10 : 4)
                     + " " + r.nextInt(r.nextBoolean() ? 400 : 15));
             }
-            int nWalkers = nPlaces < 1 ? 0 : r.nextInt(5);
+            int nWalkers = nPlaces < 1 ? 0 : r.nextInt(8) == 0 ? 0 : 1 + r.nextInt(4);
+            List<String> at = new ArrayList<>();
             for (int i = 0; i < nWalkers; i++) {
-                lines.add("walker " + fresh(walkers) + " " + of(places) + " " + r.nextInt(10) + " " + (1 + r.nextInt(r.nextBoolean() ? 99 : 25)));
+                at.add(of(places));
+                lines.add("walker " + fresh(walkers) + " " + at.get(i) + " " + r.nextInt(10) + " " + (1 + r.nextInt(r.nextBoolean() ? 99 : 25)));
             }
             int nWalks = nWalkers == 0 || nPaths == 0 ? 0 : r.nextInt(13);
             int lastDay = r.nextBoolean() ? 5 : 1 + r.nextInt(99);
             for (int i = 0; i < nWalks; i++) {
-                lines.add("walk " + of(walkers) + " " + of(paths) + " " + r.nextInt(lastDay));
+                int who = r.nextInt(nWalkers);
+                int which = r.nextInt(nPaths);
+                // mostly a path at which he would be, had he gone all walks ahead, on a day behind those
+                for (int k = 0; k < 9 && r.nextInt(9) != 0 && !Arrays.asList(ends.get(which)).contains(at.get(who)); k++) {
+                    which = r.nextInt(nPaths);
+                }
+                String[] both = ends.get(which);
+                at.set(who, both[0].equals(at.get(who)) ? both[1] : both[1].equals(at.get(who)) ? both[0] : at.get(who));
+                int day = r.nextInt(3) == 0 ? r.nextInt(lastDay) : i * lastDay / nWalks;
+                lines.add("walk " + walkers.get(who) + " " + paths.get(which) + " " + day);
             }
             int nBulls = nPaths == 0 ? 0 : r.nextInt(7);
             for (int i = 0; i < nBulls; i++) {
                 lines.add("bull " + of(paths) + " " + r.nextInt(lastDay) + " " + r.nextInt(lastDay));
             }
             if (r.nextBoolean()) {
-                lines.add("year " + (1 + r.nextInt(r.nextBoolean() ? 400 : 30)));
+                lines.add("year " + (r.nextInt(6) == 0 ? 1 + r.nextInt(10) : 10 + r.nextInt(391)));
             }
             if (r.nextBoolean()) {
-                lines.add("snow " + (r.nextInt(6) == 0 ? 100 : r.nextInt(101)));
+                lines.add("snow " + (r.nextInt(9) == 0 ? 100 : r.nextBoolean() ? r.nextInt(50) : r.nextInt(101)));
             }
             if (r.nextBoolean()) {
                 lines.add("seed " + r.nextInt(100000));
             }
             for (String law : new String[] {"term", "may", "cost"}) {
-                if (r.nextBoolean()) {
-                    lines.add("law " + law + " " + (r.nextBoolean() ? gentle(law) : expression(1 + r.nextInt(4))));
+                if (r.nextInt(5) < 2) {
+                    lines.add("law " + law + " " + (r.nextInt(3) != 0 ? gentle(law) : expression(1 + r.nextInt(4))));
                 }
             }
             StringBuilder b = new StringBuilder();
@@ -1440,7 +1453,7 @@ public final class PathsKeptModel {
 
         int play() {
             while (calls < CALLS && wrong < 20) {
-                if (calls == 0 || r.nextInt(60) == 0) {
+                if (calls == 0 || r.nextInt(45) == 0) {
                     tell();
                 } else {
                     ask();
@@ -1555,7 +1568,7 @@ public final class PathsKeptModel {
                 case 4: case 5: case 6: due("walk(" + a + ", " + p + ")", x.walk(a, p), m.walk(a, p)); break;
                 case 7: due("mow(" + p + ")", x.mow(p) ? 1 : 0, m.mow(p) ? 1 : 0); break;
                 case 8: due("carry(" + a + ", " + l + ")", x.carry(a, l) ? 1 : 0, m.carry(a, l) ? 1 : 0); break;
-                case 9: case 10: n = r.nextInt(3) == 0 ? daysUpTo(400) : r.nextInt(2); due("go(" + n + ")", x.go(n), m.go(n)); break;
+                case 9: case 10: n = r.nextInt(9) == 0 ? daysUpTo(400) : r.nextInt(2); due("go(" + n + ")", x.go(n), m.go(n)); break;
                 case 11: case 12:
                     n = daysUpTo(400);
                     what = upTo(4);
@@ -1594,7 +1607,7 @@ public final class PathsKeptModel {
                 case 33:
                     n = daysUpTo(99);
                     int seed = r.nextInt(10) == 0 ? r.nextInt() : r.nextInt() & Integer.MAX_VALUE;
-                    int age = r.nextBoolean() ? upTo(12) : upTo(999);
+                    int age = r.nextInt(3) != 0 ? r.nextInt(1 + Math.max(1, n & 127)) : upTo(999);
                     due("chance(" + seed + ", " + n + ", " + p + ", " + age + ")", x.chance(seed, n, p, age), m.chance(seed, n, p, age));
                     break;
                 case 34: what = upTo(4); n = daysUpTo(400); int i = what == 2 ? a : upTo(0); due("tried(" + what + ", " + i + ", " + n + ")", x.tried(what, i, n), m.tried(what, i, n)); break;
