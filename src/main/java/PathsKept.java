@@ -949,18 +949,14 @@ public final class PathsKept {
             int letters = 0;
             for (int i = 0; i < WORDS.length() && word < WORDS_TOLD; i++) {
                 if (WORDS.charAt(i) == ' ') {
+                    words[word] <<= LETTER_BITS * (LETTERS - letters);
                     word++;
                     letters = 0;
                 } else {
-                    words[word] |= packed(WORDS.charAt(i), letters);
+                    words[word] = words[word] << LETTER_BITS | WORDS.charAt(i) - 'a' + 1;
                     letters++;
                 }
             }
-        }
-
-        /** A letter's bits in a word, if so many stand ahead of it. */
-        private static int packed(int letter, int ahead) {
-            return letter - 'a' + 1 << LETTER_BITS * (LETTERS - 1 - ahead);
         }
 
         static boolean isName(int kind) {
@@ -982,29 +978,32 @@ public final class PathsKept {
             value = 0;
             if (next >= size) {
                 kind = END;
-            } else if (isBetween('a', 'z')) {
+            } else if (bytes[next] >= 'a' && bytes[next] <= 'z') {
                 readWord();
-            } else if (isBetween('0', '9')) {
+            } else if (bytes[next] >= '0' && bytes[next] <= '9') {
                 readDigits();
+            } else if (bytes[next] == '<' || bytes[next] == '>') {
+                kind = readComparison();
             } else {
                 kind = readSign();
             }
         }
 
-        private boolean isBetween(char first, char last) {
-            return next < size && bytes[next] >= first && bytes[next] <= last;
-        }
-
         private void readWord() {
             int letters = 0;
-            while (next < size && isBetween('a', 'z')) {
+            while (next < size && bytes[next] >= 'a' && bytes[next] <= 'z') {
                 if (letters < LETTERS) {
-                    value |= packed(bytes[next], letters);
+                    value = value << LETTER_BITS | bytes[next] - 'a' + 1;
                 }
                 letters++;
                 next++;
             }
-            kind = letters > LETTERS ? UNKNOWN : WORD;
+            if (letters > LETTERS) {
+                kind = UNKNOWN;
+                return;
+            }
+            value <<= LETTER_BITS * (LETTERS - letters);
+            kind = WORD;
             for (int word = 0; word < WORDS_TOLD && kind == WORD; word++) {
                 if (words[word] == value) {
                     kind = word;
@@ -1013,7 +1012,7 @@ public final class PathsKept {
         }
 
         private void readDigits() {
-            while (next < size && isBetween('0', '9')) {
+            while (next < size && bytes[next] >= '0' && bytes[next] <= '9') {
                 if (value < TOO_HIGH) {
                     value = value * 10 + bytes[next] - '0';
                 }
@@ -1032,12 +1031,8 @@ public final class PathsKept {
                     return OPEN;
                 case ')':
                     return CLOSE;
-                case '<':
-                    return takes('=') ? AT_MOST : takes('>') ? UNLIKE : LESS;
                 case '=':
                     return ALIKE;
-                case '>':
-                    return takes('=') ? AT_LEAST : MORE;
                 case '+':
                     return PLUS;
                 case '-':
@@ -1051,12 +1046,20 @@ public final class PathsKept {
             }
         }
 
-        private boolean takes(char sign) {
-            if (next >= size || bytes[next] != sign) {
-                return false;
-            }
+        /** What stands right behind < or > may belong to it. */
+        private int readComparison() {
+            int sign = bytes[next];
             next++;
-            return true;
+            int behind = next < size ? bytes[next] : 0;
+            if (behind == '=') {
+                next++;
+                return sign == '<' ? AT_MOST : AT_LEAST;
+            }
+            if (sign == '<' && behind == '>') {
+                next++;
+                return UNLIKE;
+            }
+            return sign == '<' ? LESS : MORE;
         }
     }
 
@@ -1212,28 +1215,37 @@ public final class PathsKept {
         }
 
         private void readNewName(Table table) {
-            if (tokens.kind == Tokens.WORD && table.find(tokens.value) >= 0) {
+            if (tokens.kind != Tokens.WORD) {
+                fail(UNFIT);
+            }
+            if (table.find(tokens.value) >= 0) {
                 fail(TOLD_ALREADY);
             }
             table.putName(tokens.value);
-            expect(Tokens.WORD);
+            tokens.advance();
         }
 
         private int readTold(Table table) {
+            if (tokens.kind != Tokens.WORD) {
+                fail(UNFIT);
+            }
             int row = table.find(tokens.value);
-            if (tokens.kind == Tokens.WORD && row < 0) {
+            if (row < 0) {
                 fail(NOT_TOLD);
             }
-            expect(Tokens.WORD);
+            tokens.advance();
             return row;
         }
 
         private int readNumber(int least, int most) {
+            if (tokens.kind != Tokens.NUMBER) {
+                fail(UNFIT);
+            }
             int number = tokens.value;
-            if (tokens.kind == Tokens.NUMBER && !isWithin(least, number, most)) {
+            if (!isWithin(least, number, most)) {
                 fail(TOO_MUCH);
             }
-            expect(Tokens.NUMBER);
+            tokens.advance();
             return number;
         }
 

@@ -1467,7 +1467,7 @@ public final class PathsKeptModel {
             if (r.nextInt(3) == 0) {
                 text = new Writer(r).spoilt(text);
             }
-            if (calls + text.length() / 20 + 4 > CALLS) {
+            if (calls + text.length() / 20 + 5 > CALLS) {
                 calls = CALLS;
                 return;
             }
