@@ -4,8 +4,11 @@ import java.nio.file.Path;
 import java.nio.file.Paths;
 import java.util.ArrayList;
 import java.util.Arrays;
+import java.util.HashMap;
 import java.util.List;
+import java.util.Map;
 import java.util.NoSuchElementException;
+import java.util.Random;
 
 /**
  * The document's edges, sentence by sentence: what is too small, too large, empty, full, wrapped round or refused.
@@ -178,6 +181,7 @@ public final class PathsKeptEdges {
             row.add((long) x.legs(w));
         }
         row.add(x.clear(1, 0));
+        row.add(x.clear(1, 1));
         long[] answers = new long[row.size()];
         for (int i = 0; i < answers.length; i++) {
             answers[i] = row.get(i);
@@ -462,10 +466,52 @@ public final class PathsKeptEdges {
         tell(x, PAIR);
         due("no law of before", x.law(0, 0, 0), ERROR);
         due("no law of before", x.walk(0, 0), 0);
-        due("no snow of before", x.clear(1, 0), 1);
+        due("no snow of before", x.clear(1, 1), 1);
         due("no year of before", x.lapse(0), 366);
         due("no bull of before", x.path(0, 7), 0);
         due("no knots of before", x.count(4), 0);
+        textLeavesNothingOfFaultyOnes();
+    }
+
+    /** A text with a fault, and the one ahead of the latest, leave nothing in the next one either. */
+    private static void textLeavesNothingOfFaultyOnes() {
+        String much = PAIR + "law term 9;law may 0;law cost 3;year 3;snow 50;seed 1;bull p 0 99;";
+        PathsKept x = told(much);
+        tell(x, PAIR);
+        for (int turn = 0; turn < 2; turn++) {
+            due("the same again", tell(x, PAIR), 4);
+            due("no law is left", x.law(0, 0, 0), ERROR);
+            due("no law is left", x.law(1, 0, 0), ERROR);
+            due("no law is left", x.law(2, 0, 0), ERROR);
+            due("no snow is left", x.clear(1, 1), 1);
+            due("no year is left", x.lapse(0), 364);
+            due("no bull is left", x.path(0, 7), 0);
+            due("no knots are left", x.count(4), 0);
+            due("he can go it", x.walk(0, 0), 0);
+            due("a fault behind much", tell(x, much + "$"), -1);
+        }
+        String snowy = snowy(39, 0).replace("seed 0;", "");
+        tell(x, snowy(39, 1));
+        tell(x, snowy);
+        tell(x, snowy);
+        PathsKept other = told(snowy);
+        for (int day = 0; day < 12; day++) {
+            x.go(1);
+            other.go(1);
+            due("no seed is left", x.count(8), other.count(8));
+        }
+        String full = PAIR + "law term " + times(31, "1+") + "1;law may 7;";
+        x = new PathsKept();
+        for (int turn = 0; turn < 4; turn++) {
+            due("64 knots again", tell(x, full), 6);
+            due("64 knots again", x.count(4), 64);
+            due("their worth", x.law(0, 0, 0) * 10 + x.law(1, 0, 0), 327);
+        }
+        x = told(TWO + named("path ", 9, " a b 1 0 7;") + named("walker ", 4, " a 0 1;"));
+        due("four walkers", x.match(4), 28);
+        tell(x, TWO + named("path ", 9, " a b 1 0 7;") + named("walker ", 2, " a 0 1;"));
+        due("two walkers", x.match(4), 14);
+        due("two walkers", x.match(2), -2);
     }
 
     private static void faultsLeaveAll() {
@@ -1152,6 +1198,9 @@ public final class PathsKeptEdges {
         due("an ERROR by too much, LEGS less", told(low + "law may 1+0*(9999*9999*9999*9999);").walker(0, 4), 0);
 
         says(7, "4 PATHS (bits) he CAN go now (without snow)");
+        due("cost 0", told(PAIR + "law cost 0;").walker(0, 4), 1);
+        due("cost as PACE", told(PAIR + "law cost 5;").walker(0, 4), 1);
+        due("cost above PACE", told(PAIR + "law cost 6;").walker(0, 4), 0);
         due("snow 100", told(PAIR + "snow 100;").walker(0, 4), 1);
         x = told(TWO + named("path ", 9, " a b 1 0 0;") + "walker w a 0 1;");
         due("nine", x.walker(0, 4), 511);
@@ -1485,6 +1534,24 @@ public final class PathsKeptEdges {
                     due("done", x.count(7), day + 1 - refused);
                 }
             }
+        }
+        for (int number = 0; number <= 99; number += 99) {
+            int seed = 0;
+            while (numbers(seed, 1)[0] != number) {
+                seed++;
+            }
+            PathsKept x = told(snowy(99, seed));
+            x.go(1);
+            due("a number of " + number + " by snow 99", x.count(8), number == 99 ? 0 : 1);
+            x = told(snowy(1, seed));
+            x.go(1);
+            due("a number of " + number + " by snow 1", x.count(8), number == 0 ? 1 : 0);
+            x = told(snowy(100, seed));
+            x.go(1);
+            due("a number of " + number + " by snow 100", x.count(8), 1);
+            x = told(snowy(0, seed));
+            x.go(1);
+            due("a number of " + number + " by snow 0", x.count(8), 0);
         }
         PathsKept x = told(snowy(100, 1));
         x.go(12);
@@ -1936,6 +2003,16 @@ public final class PathsKeptEdges {
         due("not the oldest for himself: 5 and 4", x.match(0) * 10 + x.match(1), 10);
         x = told(TWO + "path p a b 1 0 5;path q a b 1 9 4;walker v a 9 1;walker w a 0 1;");
         due("v leaves p to w: 4 and 5", x.match(0) * 10 + x.match(1), 10);
+        x.carry(1, 1);
+        due("from the other end", x.match(0) * 10 + x.match(1), 10);
+        x = told(TWO + "place c;path p a c 1 0 1;path q a c 1 0 5;path r b c 1 0 9;walker u a 0 1;walker v b 0 1;walker w b 0 1;");
+        due("5 and 9", x.match(0) * 10 + x.match(1), 12);
+        due("r is v's", x.match(2), -2);
+        due("in sum", x.match(4), 14);
+        x.carry(0, 1);
+        due("all at b: r", x.match(0), 2);
+        due("all at b: none", x.match(1), -2);
+        due("all at b: 9", x.match(4), 9);
 
         says(21, "NONE for another what");
         for (int what : new int[] {-1, 5, LEAST, MOST}) {
@@ -1960,6 +2037,12 @@ public final class PathsKeptEdges {
         due("fullest", told(FULL).game(0, 1, 1, 1), 0);
         due("fullest, to a place apart", told(FULL).game(0, 6, 1, 0), 0);
         due("fullest, to a place apart", told(FULL).game(0, 6, 0, 1), 0);
+
+        says(22, "the SQUIRE shuts a PATH that is KEPT and that nobody took, the PARISH takes one, till all are taken or shut");
+        Random random = new Random(22);
+        for (int turn = 0; turn < 60; turn++) {
+            playAll(random, 2 + random.nextInt(6), turn < 40 ? 9 : random.nextInt(10));
+        }
 
         says(22, "the first PATH by which he wins (-2: he can't win, there is none)");
         x = told(TWO + "place c;path p a b 1 0 0;path q a b 1 0 0;path r b c 1 0 0;");
@@ -1992,6 +2075,64 @@ public final class PathsKeptEdges {
         }
         due("alike", x.game(0, 0, 0, 0), -1);
         due("alike", x.game(1, 1, 1, 1), -1);
+    }
+
+    /** All games of one text, played to their very end. */
+    private static void playAll(Random random, int places, int paths) {
+        int[] ends = new int[paths];
+        StringBuilder text = new StringBuilder(named("place ", places, ";"));
+        for (int p = 0; p < paths; p++) {
+            int one = random.nextInt(places);
+            int other = (one + 1 + random.nextInt(places - 1)) % places;
+            ends[p] = 1 << one | 1 << other;
+            text.append("path ").append((char) ('a' + p)).append(' ').append((char) ('a' + one)).append(' ').append((char) ('a' + other))
+                .append(" 1 0 0;");
+        }
+        PathsKept x = told(text.toString());
+        for (int one = 0; one < places; one++) {
+            for (int other = 0; other < places; other++) {
+                for (int first = 0; first <= 1 && one != other; first++) {
+                    Map<Integer, Integer> winners = new HashMap<>();
+                    String call = "game(" + one + ", " + other + ", " + first + ") of " + text;
+                    due(call, x.game(one, other, first, 0), winner(ends, 1 << one | 1 << other, 0, 0, first, winners));
+                    int move = -2;
+                    for (int p = paths - 1; p >= 0; p--) {
+                        int taken = first == 1 ? 1 << p : 0;
+                        if (winner(ends, 1 << one | 1 << other, taken, 1 << p ^ taken, 1 - first, winners) == first) {
+                            move = p;
+                        }
+                    }
+                    due(call + ", first", x.game(one, other, first, 1), move);
+                }
+            }
+        }
+    }
+
+    private static int winner(int[] ends, int both, int taken, int shut, int turn, Map<Integer, Integer> winners) {
+        int free = (1 << ends.length) - 1 & ~taken & ~shut;
+        if (free == 0) {
+            int reached = both & -both;
+            for (int again = 0; again < ends.length; again++) {
+                for (int p = 0; p < ends.length; p++) {
+                    if ((taken >> p & 1) != 0 && (reached & ends[p]) != 0) {
+                        reached |= ends[p];
+                    }
+                }
+            }
+            return (reached & both) == both ? 1 : 0;
+        }
+        Integer known = winners.get(taken << 9 | shut);
+        if (known != null) {
+            return known;
+        }
+        int winner = 1 - turn;
+        for (int p = 0; p < ends.length && winner != turn; p++) {
+            if ((free >> p & 1) != 0) {
+                winner = turn == 1 ? winner(ends, both, taken | 1 << p, shut, 0, winners) : winner(ends, both, taken, shut | 1 << p, 1, winners);
+            }
+        }
+        winners.put(taken << 9 | shut, winner);
+        return winner;
     }
 
     // ---------------------------------------------------------------- promises 23 to 26: by LEGS and by odds
@@ -2121,8 +2262,8 @@ public final class PathsKeptEdges {
         says(27, "SEEN, at most 24, numbered from 0 on: behind so many DAYS 1 .. 60");
         PathsKept x = told(VALLEY);
         due("1 day", x.see(1, 0, 0, true), 0);
-        due("60 days", x.see(60, 1, 3, false), 1);
-        due("the same again", x.see(60, 1, 3, false), 2);
+        due("60 days", x.see(60, 1, 3, true), 1);
+        due("the same again", x.see(60, 1, 3, true), 2);
 
         says(27, "NONE: no such ones, or there are 24");
         for (int days : new int[] {0, 61, -1, LEAST, MOST}) {
@@ -2138,7 +2279,12 @@ public final class PathsKeptEdges {
         for (int i = 3; i < 23; i++) {
             due("see " + i, x.see(1, 0, 0, true), i);
         }
+        due("by 23", x.legs(0), 1);
         due("a strike is one, too", x.strike(22), 23);
+        due("by 24", x.legs(0), 1);
+        due("by 24", x.known(24), true);
+        due("by 24", x.sit(0, 60, 1), 1);
+        due("by 25", x.known(25), false);
         due("24", x.count(10), 24);
         due("a 25th", x.see(1, 0, 0, true), -1);
         due("a 25th, wrong beside", x.see(0, 9, 9, true), -1);
@@ -2456,6 +2602,15 @@ public final class PathsKeptEdges {
         x.carry(0, 0);
         due("anew", x.undo(), 0);
         due("anew", x.walker(0, 0), 2);
+        x = told(named("place ", 7, ";") + "walker w a 0 1;");
+        for (int i = 1; i <= 50; i++) {
+            x.carry(0, i % 7);
+        }
+        for (int i = 49; i >= 30; i--) {
+            due("undo", x.undo(), i - 30);
+            due("each one is undone by itself", x.walker(0, 0), i % 7);
+        }
+        due("the first thirty stand", x.undo(), -1);
         x = grass();
         x.mow(0);
         x.undo();
@@ -2537,12 +2692,17 @@ public final class PathsKeptEdges {
         x = told(snowy(39, 1));
         x.go(1);
         x.keep();
-        x.go(3);
-        int refused = x.count(8);
-        x.back();
-        due("REFUSED as in the IMAGE", x.count(8), 1);
-        x.go(3);
-        due("the numbers as in the IMAGE", x.count(8), refused);
+        int[] drawn = numbers(1, 12);
+        for (int turn = 0; turn < 3; turn++) {
+            int refused = 1;
+            due("REFUSED as in the IMAGE", x.count(8), refused);
+            for (int day = 1; day < 12; day++) {
+                x.go(1);
+                refused += drawn[day] < 39 ? 1 : 0;
+                due("the numbers as in the IMAGE, DAY " + day, x.count(8), refused);
+            }
+            x.back();
+        }
         x.see(1, 0, 0, true);
         x.strike(0);
         x.known(1);
