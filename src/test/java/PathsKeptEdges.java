@@ -52,15 +52,19 @@ public final class PathsKeptEdges {
     // ---------------------------------------------------------------- helpers
 
     private static void says(int number, String words) {
-        if (checksOfSentence == 0) {
-            wrong++;
-            System.out.println("promise " + promise + " '" + sentence + "': nothing was checked");
-        }
+        endSentence();
         promise = number;
         sentence = words;
         checksOfSentence = 0;
         sentencesOf[number]++;
         quoted.add(words);
+    }
+
+    private static void endSentence() {
+        if (checksOfSentence == 0) {
+            wrong++;
+            System.out.println("promise " + promise + " '" + sentence + "': nothing was checked");
+        }
     }
 
     private static void due(String call, long got, long want) {
@@ -263,8 +267,7 @@ public final class PathsKeptEdges {
     }
 
     private static void report() throws IOException {
-        says(1, "an empty TAPE");
-        checksOfSentence = 1;
+        endSentence();
         for (int number = 1; number <= PROMISES; number++) {
             if (sentencesOf[number] == 0) {
                 wrong++;
