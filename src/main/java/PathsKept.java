@@ -46,8 +46,7 @@ public final class PathsKept {
     private final Days days = new Days();
     private final Seen seen = new Seen();
     private final Ways ways = new Ways();
-    /** Made by the first call that plays: its rows are far larger than all others. */
-    private Game squireGame;
+    private final Game squireGame = new Game();
 
     public PathsKept() {
         for (int i = 0; i < MOST_UNDONE; i++) {
@@ -473,9 +472,6 @@ public final class PathsKept {
         }
         if (!isWithin(Game.SQUIRE, first, Game.PARISH) || !isWithin(0, what, 1)) {
             return NONE;
-        }
-        if (squireGame == null) {
-            squireGame = new Game();
         }
         squireGame.begin(told, now.kept, one, other);
         return what == 0 ? squireGame.winner(first) : squireGame.firstMove(first);
@@ -1853,16 +1849,18 @@ public final class PathsKept {
         static final int PARISH = 1;
         private static final int[] POWERS_OF_THREE = {1, 3, 9, 27, 81, 243, 729, 2187, 6561};
         private static final int STATES = 19683;
+        /** How many states are noted in one number, two bits each. */
+        private static final int NOTED_SHIFT = 4;
+        private static final int NOTED_MASK = 15;
 
         /** Whether a set of paths leads from one place to the other one. */
         private final boolean[] leads = new boolean[1 << MOST_PATHS];
-        /** Who wins from a state on, behind the number of the game, so that nothing need be wiped for the next one. */
-        private final int[] winners = new int[STATES];
-        private int games;
+        /** Who wins from a state on, and 1; 0, if it isn't worked out yet. */
+        private final int[] winners = new int[(STATES >> NOTED_SHIFT) + 1];
         private int kept;
 
         void begin(Told told, int paths, int one, int other) {
-            games++;
+            Arrays.fill(winners, 0);
             kept = paths;
             for (int set = 0; set <= kept; set++) {
                 if ((set & ~kept) == 0) {
@@ -1902,8 +1900,11 @@ public final class PathsKept {
             if (!leads[kept & ~shut]) {
                 return SQUIRE;
             }
-            if (winners[state] >> 1 == games) {
-                return winners[state] & 1;
+            int row = state >> NOTED_SHIFT;
+            int shift = (state & NOTED_MASK) << 1;
+            int noted = winners[row] >> shift & 3;
+            if (noted != 0) {
+                return noted - 1;
             }
             int winner = 1 - turn;
             int free = kept & ~taken & ~shut;
@@ -1912,7 +1913,7 @@ public final class PathsKept {
                     winner = winnerBehind(taken, shut, state, turn, path);
                 }
             }
-            winners[state] = games << 1 | winner;
+            winners[row] |= winner + 1 << shift;
             return winner;
         }
     }
